@@ -223,11 +223,12 @@ public final class Roomcolour {
 
     public int heaviestRound(int period) throws IllegalArgumentException, IllegalStateException {
         requireCircle(period);
-        int greatest = 0;
+        // Those that run on past a full turn all overlap: a set has none of them, or just one.
+        int greatest = heaviestBeside(0, 0, period);
         for (int number = 0; number < added; number++) {
-            if (contains(presentSet, number)) {
-                fillApartFrom(number, period);
-                greatest = Math.max(greatest, weights[number] + oneRoom.greatestWeight());
+            if (contains(presentSet, number) && runsPastTurn(number, period)) {
+                int beside = heaviestBeside(begins[number], lengthOf(number), period);
+                greatest = Math.max(greatest, weights[number] + beside);
             }
         }
         return greatest;
@@ -356,16 +357,13 @@ public final class Roomcolour {
         }
     }
 
-    /**
-     * Beside one interval the circle is a line that starts at that interval's begin; what it
-     * takes itself, and what runs on past the full turn, is not apart from it.
-     */
-    private void fillApartFrom(int interval, int period) {
+    /** Beside a taken piece the circle is a line, from that piece's begin on to the full turn. */
+    private void fillBeside(int taken, int length, int period) {
         oneRoom.row.clear();
         for (int number = 0; number < added; number++) {
-            int begin = turned(begins[number] - begins[interval], period);
+            int begin = turned(begins[number] - taken, period);
             int end = begin + lengthOf(number);
-            if (contains(presentSet, number) && begin >= lengthOf(interval) && end <= period) {
+            if (contains(presentSet, number) && begin >= length && end <= period) {
                 oneRoom.row.put(number, begin, end, weights[number]);
             }
         }
@@ -381,6 +379,17 @@ public final class Roomcolour {
     private int heaviestForMany(long set, int rooms) {
         fill(manyRooms.row, set);
         return manyRooms.greatestWeight(rooms);
+    }
+
+    // ---- answers on a circle
+
+    private int heaviestBeside(int taken, int length, int period) {
+        fillBeside(taken, length, period);
+        return oneRoom.greatestWeight();
+    }
+
+    private boolean runsPastTurn(int number, int period) {
+        return turned(begins[number], period) + lengthOf(number) > period;
     }
 
     private int depthOnCircle(int time, int period) {
@@ -602,13 +611,9 @@ public final class Roomcolour {
                 cameFrom[stop] = stop - 1;
                 cameByTaking[stop] = false;
             }
-            boolean better = true;
             // A best way visits each stop once, so more rounds than stops are never needed.
-            for (int round = 0; better && round <= row.count; round++) {
-                better = improveForwards();
-                if (improveBackwards()) {
-                    better = true;
-                }
+            for (int round = 0; round <= row.count && improveForwards(); round++) {
+                improveBackwards();
             }
         }
 
@@ -626,18 +631,17 @@ public final class Roomcolour {
             return better;
         }
 
-        private boolean improveBackwards() {
-            boolean better = false;
+        /** Leaves no piece backwards that gains more, so only the forward ones need a new look. */
+        private void improveBackwards() {
             for (int stop = row.count - 1; stop >= 0; stop--) {
-                if (waiting[stop] > 0 && reach(stop, stop + 1, gain[stop + 1], false)) {
-                    better = true;
+                if (waiting[stop] > 0) {
+                    reach(stop, stop + 1, gain[stop + 1], false);
                 }
-                int gainByGivingUp = gain[stopAfter[stop]] - row.weights[stop];
-                if (taken[stop] && reach(stop, stopAfter[stop], gainByGivingUp, true)) {
-                    better = true;
+                if (taken[stop]) {
+                    int after = stopAfter[stop];
+                    reach(stop, after, gain[after] - row.weights[stop], true);
                 }
             }
-            return better;
         }
 
         private boolean reach(int stop, int from, int newGain, boolean byTaking) {
