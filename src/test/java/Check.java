@@ -1,3 +1,6 @@
+import java.util.function.Consumer;
+import java.util.function.Supplier;
+
 /** Counts the answers that are due and those that are not, for one test program. */
 final class Check {
     /** A call whose answer does not matter, as it should throw. */
@@ -21,12 +24,21 @@ final class Check {
         note(want.equals(got), what + " answered " + got + ", due is " + want);
     }
 
-    /** The call must throw just this class, and no question about x may be answered otherwise. */
-    void throwsAndKeeps(String what, Class<? extends RuntimeException> want, Roomcolour x,
-            Call call) {
-        String before = Answers.of(x);
+    /** The call must throw just this class. */
+    void throwing(String what, Class<? extends RuntimeException> want, Call call) {
         due(what, want.getSimpleName(), thrownBy(call));
-        due(what + ": all answers after it", before, Answers.of(x));
+    }
+
+    /**
+     * The call must throw just this class and change nothing: all that the object does after it is
+     * held against a twin that was never asked.
+     */
+    void refused(String what, Class<? extends RuntimeException> want, Supplier<Roomcolour> maker,
+            Consumer<Roomcolour> call) {
+        Roomcolour asked = maker.get();
+        throwing(what, want, () -> call.accept(asked));
+        due(what + ": all that comes after it", Answers.toTheEnd(maker.get()),
+                Answers.toTheEnd(asked));
     }
 
     private static String thrownBy(Call call) {

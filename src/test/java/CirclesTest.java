@@ -1,7 +1,5 @@
 /** Promises 24 and 25: intervals on a circle. */
 public final class CirclesTest {
-    private static final Class<IllegalArgumentException> ARGUMENT = IllegalArgumentException.class;
-    private static final Class<IllegalStateException> STATE = IllegalStateException.class;
     private static final Check CHECK = new Check("CirclesTest");
 
     public static void main(String[] args) {
@@ -9,7 +7,6 @@ public final class CirclesTest {
         heaviestRound();
         fullTurn();
         greatestPeriod();
-        refuses();
         forty();
         CHECK.end();
     }
@@ -102,29 +99,6 @@ public final class CirclesTest {
         CHECK.due("25: first and last time are apart", 3, x.heaviestRound(1000));
         CHECK.due("25: and the same time modulo 999", 2, x.heaviestRound(999));
         CHECK.due("24: and the same time modulo 999", 2, x.depthRound(999));
-    }
-
-    private static void refuses() {
-        Roomcolour x = four();
-        CHECK.throwsAndKeeps("24: 0", ARGUMENT, x, () -> x.depthRound(0));
-        CHECK.throwsAndKeeps("24: -1", ARGUMENT, x, () -> x.depthRound(-1));
-        CHECK.throwsAndKeeps("24: 1001", ARGUMENT, x, () -> x.depthRound(1001));
-        CHECK.throwsAndKeeps("24: least", ARGUMENT, x, () -> x.depthRound(Integer.MIN_VALUE));
-        CHECK.throwsAndKeeps("24: too short a period", STATE, x, () -> x.depthRound(5));
-        CHECK.throwsAndKeeps("25: 0", ARGUMENT, x, () -> x.heaviestRound(0));
-        CHECK.throwsAndKeeps("25: -1", ARGUMENT, x, () -> x.heaviestRound(-1));
-        CHECK.throwsAndKeeps("25: 1001", ARGUMENT, x, () -> x.heaviestRound(1001));
-        CHECK.throwsAndKeeps("25: greatest", ARGUMENT, x,
-                () -> x.heaviestRound(Integer.MAX_VALUE));
-        CHECK.throwsAndKeeps("25: too short a period", STATE, x, () -> x.heaviestRound(5));
-        x.remove(0);
-        CHECK.due("24: the long one is removed", 3, x.depthRound(4));
-        CHECK.due("25: the long one is removed", 6, x.heaviestRound(4));
-        Roomcolour empty = new Roomcolour();
-        CHECK.throwsAndKeeps("24: 0 without intervals", ARGUMENT, empty,
-                () -> empty.depthRound(0));
-        CHECK.throwsAndKeeps("25: 0 without intervals", ARGUMENT, empty,
-                () -> empty.heaviestRound(0));
     }
 
     private static void forty() {

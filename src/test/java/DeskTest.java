@@ -1,17 +1,12 @@
 /** Promises 18 to 23: the desk. */
 public final class DeskTest {
-    private static final Class<IllegalArgumentException> ARGUMENT = IllegalArgumentException.class;
-    private static final Class<IllegalStateException> STATE = IllegalStateException.class;
-    private static final Class<IndexOutOfBoundsException> INDEX = IndexOutOfBoundsException.class;
     private static final Check CHECK = new Check("DeskTest");
 
     public static void main(String[] args) {
         openDesk();
-        openDeskRefuses();
         offer();
         offerAtTheFactor();
         offerWithTheGreatestWeights();
-        offerRefuses();
         acceptedAndWeights();
         bestOfOffered();
         CHECK.end();
@@ -39,23 +34,6 @@ public final class DeskTest {
         CHECK.due("18: accepted again", 0, x.offer(0));
         CHECK.due("18: with the newest factor", 5, x.offer(2));
         CHECK.due("18: intervals stay", 4, x.intervals());
-    }
-
-    private static void openDeskRefuses() {
-        Roomcolour x = new Roomcolour();
-        x.add(0, 10, 5);
-        x.add(0, 10, 6);
-        x.add(0, 10, 12);
-        x.offer(0);
-        x.offer(1);
-        CHECK.throwsAndKeeps("18: 99", ARGUMENT, x, () -> x.openDesk(99));
-        CHECK.throwsAndKeeps("18: 401", ARGUMENT, x, () -> x.openDesk(401));
-        CHECK.throwsAndKeeps("18: 0", ARGUMENT, x, () -> x.openDesk(0));
-        CHECK.throwsAndKeeps("18: -100", ARGUMENT, x, () -> x.openDesk(-100));
-        CHECK.throwsAndKeeps("18: least", ARGUMENT, x, () -> x.openDesk(Integer.MIN_VALUE));
-        CHECK.throwsAndKeeps("18: greatest", ARGUMENT, x, () -> x.openDesk(Integer.MAX_VALUE));
-        CHECK.throwsAndKeeps("19: still offered", STATE, x, () -> x.offer(0));
-        CHECK.due("19: still with the old factor", 6, x.offer(2));
     }
 
     private static void offer() {
@@ -119,28 +97,6 @@ public final class DeskTest {
         CHECK.due("19: drops 39 rivals", 78, y.offer(39));
         CHECK.due("20: the last one alone", 1L << 39, y.accepted());
         CHECK.due("22: 39 rivals", 78, y.droppedWeight());
-    }
-
-    private static void offerRefuses() {
-        Roomcolour x = new Roomcolour();
-        x.add(0, 10, 5);
-        x.add(0, 10, 6);
-        x.add(0, 10, 4);
-        x.add(50, 60, 4);
-        x.offer(0);
-        x.offer(1);
-        x.offer(2);
-        x.offer(3);
-        x.remove(3);
-        CHECK.throwsAndKeeps("19: accepted already", STATE, x, () -> x.offer(1));
-        CHECK.throwsAndKeeps("19: dropped already", STATE, x, () -> x.offer(0));
-        CHECK.throwsAndKeeps("19: rejected already", STATE, x, () -> x.offer(2));
-        CHECK.throwsAndKeeps("19: removed ahead of offered", INDEX, x, () -> x.offer(3));
-        CHECK.throwsAndKeeps("19: -1", INDEX, x, () -> x.offer(-1));
-        CHECK.throwsAndKeeps("19: never added", INDEX, x, () -> x.offer(4));
-        CHECK.throwsAndKeeps("19: 64", INDEX, x, () -> x.offer(64));
-        CHECK.due("19: a refused offer is none", 4, x.add(20, 30, 9));
-        CHECK.due("19: so it can be offered", 0, x.offer(4));
     }
 
     private static void acceptedAndWeights() {

@@ -17,6 +17,7 @@ public final class ManyRunsTest {
     private final int heaviest;
     private final boolean manyRooms;
     private long seed;
+    private int calls;
     private int added;
     private Roomcolour real;
     private PlainModel model;
@@ -31,7 +32,7 @@ public final class ManyRunsTest {
     }
 
     public static void main(String[] args) {
-        for (int run = 0; run < 40; run++) {
+        for (int run = 0; run < 80; run++) {
             new ManyRunsTest(run, 20, 8, 9, true).run();
             new ManyRunsTest(1000 + run, 60, 30, 3, true).run();
             new ManyRunsTest(2000 + run, 100, 20, 1000, false).run();
@@ -45,8 +46,8 @@ public final class ManyRunsTest {
         real = new Roomcolour();
         model = new PlainModel();
         int firstAdds = next(45);
-        for (int call = 0; call < CALLS; call++) {
-            if (call < firstAdds) {
+        while (calls < CALLS) {
+            if (calls < firstAdds) {
                 add();
             } else {
                 call();
@@ -76,6 +77,11 @@ public final class ManyRunsTest {
     }
 
     private void ask(String what, Question ours, Question due) {
+        // What later calls answer is free.
+        if (calls == CALLS) {
+            return;
+        }
+        calls++;
         String want = answer(due);
         CHECK.due("run " + firstSeed + ": " + what, want, answer(ours));
     }

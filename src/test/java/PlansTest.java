@@ -1,7 +1,5 @@
 /** Promises 13 to 17: plans for one and for several rooms. */
 public final class PlansTest {
-    private static final Class<IllegalArgumentException> ARGUMENT = IllegalArgumentException.class;
-    private static final Class<IndexOutOfBoundsException> INDEX = IndexOutOfBoundsException.class;
     private static final Check CHECK = new Check("PlansTest");
 
     public static void main(String[] args) {
@@ -11,9 +9,7 @@ public final class PlansTest {
         most();
         heaviestIn();
         heaviestInGivesUpEarlierChoices();
-        heaviestInRefuses();
         lossWithout();
-        lossWithoutRefuses();
         fortyAtOnce();
         fortyInARow();
         CHECK.end();
@@ -134,15 +130,6 @@ public final class PlansTest {
         CHECK.due("16: y in three rooms", 24, y.heaviestIn(3));
     }
 
-    private static void heaviestInRefuses() {
-        Roomcolour x = five();
-        CHECK.throwsAndKeeps("16: 0", ARGUMENT, x, () -> x.heaviestIn(0));
-        CHECK.throwsAndKeeps("16: 7", ARGUMENT, x, () -> x.heaviestIn(7));
-        CHECK.throwsAndKeeps("16: -1", ARGUMENT, x, () -> x.heaviestIn(-1));
-        CHECK.throwsAndKeeps("16: least", ARGUMENT, x, () -> x.heaviestIn(Integer.MIN_VALUE));
-        CHECK.throwsAndKeeps("16: greatest", ARGUMENT, x, () -> x.heaviestIn(Integer.MAX_VALUE));
-    }
-
     private static void lossWithout() {
         Roomcolour x = five();
         CHECK.due("17: in the plan", 4, x.lossWithout(2, 1));
@@ -156,19 +143,6 @@ public final class PlansTest {
         Roomcolour y = new Roomcolour();
         y.add(0, 1, 1000);
         CHECK.due("17: the only one", 1000, y.lossWithout(0, 1));
-    }
-
-    private static void lossWithoutRefuses() {
-        Roomcolour x = five();
-        x.remove(1);
-        CHECK.throwsAndKeeps("17: removed", INDEX, x, () -> x.lossWithout(1, 1));
-        CHECK.throwsAndKeeps("17: -1", INDEX, x, () -> x.lossWithout(-1, 1));
-        CHECK.throwsAndKeeps("17: never added", INDEX, x, () -> x.lossWithout(5, 1));
-        CHECK.throwsAndKeeps("17: 64", INDEX, x, () -> x.lossWithout(64, 1));
-        CHECK.throwsAndKeeps("17: index ahead of argument", INDEX, x, () -> x.lossWithout(5, 0));
-        CHECK.throwsAndKeeps("17: rooms 0", ARGUMENT, x, () -> x.lossWithout(0, 0));
-        CHECK.throwsAndKeeps("17: rooms 7", ARGUMENT, x, () -> x.lossWithout(0, 7));
-        CHECK.throwsAndKeeps("17: rooms -1", ARGUMENT, x, () -> x.lossWithout(0, -1));
     }
 
     private static void fortyAtOnce() {

@@ -1,7 +1,5 @@
 /** Promises 8 to 12: rooms and depths. */
 public final class RoomsTest {
-    private static final Class<IllegalArgumentException> ARGUMENT = IllegalArgumentException.class;
-    private static final Class<IndexOutOfBoundsException> INDEX = IndexOutOfBoundsException.class;
     private static final Check CHECK = new Check("RoomsTest");
 
     public static void main(String[] args) {
@@ -9,12 +7,10 @@ public final class RoomsTest {
         roomOf();
         roomOfEqualBegins();
         roomOfForty();
-        roomOfRefuses();
         depth();
         busiest();
         earliest();
         earliestAmongMany();
-        earliestRefuses();
         CHECK.end();
     }
 
@@ -81,17 +77,6 @@ public final class RoomsTest {
         CHECK.due("11: forty", 39, x.busiest());
     }
 
-    private static void roomOfRefuses() {
-        Roomcolour x = new Roomcolour();
-        x.add(0, 10, 5);
-        x.add(0, 10, 5);
-        x.remove(0);
-        CHECK.throwsAndKeeps("9: removed", INDEX, x, () -> x.roomOf(0));
-        CHECK.throwsAndKeeps("9: -1", INDEX, x, () -> x.roomOf(-1));
-        CHECK.throwsAndKeeps("9: never added", INDEX, x, () -> x.roomOf(2));
-        CHECK.throwsAndKeeps("9: 65", INDEX, x, () -> x.roomOf(65));
-    }
-
     private static void depth() {
         Roomcolour x = new Roomcolour();
         CHECK.due("10: without intervals", 0, x.depth(0));
@@ -105,10 +90,6 @@ public final class RoomsTest {
         CHECK.due("10: at an end", 1, x.depth(30));
         CHECK.due("10: at 999", 1, x.depth(999));
         CHECK.due("10: at 1000", 0, x.depth(1000));
-        CHECK.throwsAndKeeps("10: -1", ARGUMENT, x, () -> x.depth(-1));
-        CHECK.throwsAndKeeps("10: 1001", ARGUMENT, x, () -> x.depth(1001));
-        CHECK.throwsAndKeeps("10: least", ARGUMENT, x, () -> x.depth(Integer.MIN_VALUE));
-        CHECK.throwsAndKeeps("10: greatest", ARGUMENT, x, () -> x.depth(Integer.MAX_VALUE));
         x.remove(0);
         CHECK.due("10: after a removal", 0, x.depth(5));
     }
@@ -181,24 +162,5 @@ public final class RoomsTest {
         Roomcolour z = new Roomcolour();
         z.add(0, 1000, 1);
         CHECK.due("12: all is taken", -1, z.earliest(1, 1));
-    }
-
-    private static void earliestRefuses() {
-        Roomcolour x = new Roomcolour();
-        x.add(10, 20, 1);
-        CHECK.throwsAndKeeps("12: length 0", ARGUMENT, x, () -> x.earliest(0, 1));
-        CHECK.throwsAndKeeps("12: length -1", ARGUMENT, x, () -> x.earliest(-1, 1));
-        CHECK.throwsAndKeeps("12: length 1001", ARGUMENT, x, () -> x.earliest(1001, 1));
-        CHECK.throwsAndKeeps("12: rooms 0", ARGUMENT, x, () -> x.earliest(1, 0));
-        CHECK.throwsAndKeeps("12: rooms 41", ARGUMENT, x, () -> x.earliest(1, 41));
-        CHECK.throwsAndKeeps("12: greatest length", ARGUMENT, x,
-                () -> x.earliest(Integer.MAX_VALUE, 1));
-        CHECK.throwsAndKeeps("12: least length", ARGUMENT, x,
-                () -> x.earliest(Integer.MIN_VALUE, 1));
-        CHECK.throwsAndKeeps("12: least rooms", ARGUMENT, x,
-                () -> x.earliest(1, Integer.MIN_VALUE));
-        CHECK.throwsAndKeeps("12: greatest rooms", ARGUMENT, x,
-                () -> x.earliest(1, Integer.MAX_VALUE));
-        CHECK.due("12: most rooms", 0, x.earliest(1000, 40));
     }
 }
