@@ -9,6 +9,7 @@ public final class PlansTest {
         most();
         heaviestIn();
         heaviestInGivesUpEarlierChoices();
+        heaviestInGoesBackTwice();
         lossWithout();
         fortyAtOnce();
         fortyInARow();
@@ -128,6 +129,24 @@ public final class PlansTest {
         CHECK.due("16: y in one room", 10, y.heaviestIn(1));
         CHECK.due("16: y in two rooms", 20, y.heaviestIn(2));
         CHECK.due("16: y in three rooms", 24, y.heaviestIn(3));
+    }
+
+    /** The third room has to go back along the earlier ones, wait, and go back once more. */
+    private static void heaviestInGoesBackTwice() {
+        Roomcolour x = new Roomcolour();
+        x.add(1, 9, 42);
+        x.add(0, 5, 42);
+        x.add(1, 3, 1);
+        x.add(3, 4, 41);
+        x.add(0, 1, 2);
+        x.add(4, 9, 2);
+        x.add(0, 2, 3);
+        x.add(5, 6, 1);
+        x.add(2, 4, 40);
+        CHECK.due("16: x in one room", 46, x.heaviestIn(1));
+        CHECK.due("16: x in two rooms", 90, x.heaviestIn(2));
+        CHECK.due("16: x in three rooms", 133, x.heaviestIn(3));
+        CHECK.due("16: x in four rooms: all", 174, x.heaviestIn(4));
     }
 
     private static void lossWithout() {
