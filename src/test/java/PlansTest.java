@@ -85,7 +85,7 @@ public final class PlansTest {
         CHECK.due("15: not the heaviest", 3, x.most());
         CHECK.due("13: not the most", 1000, x.heaviest());
         x.remove(4);
-        CHECK.due("15: still three", 2, x.most());
+        CHECK.due("15: two again", 2, x.most());
         x.remove(5);
         x.remove(1);
         x.remove(2);
